@@ -6,6 +6,7 @@ public final class BindingLisp {
     public static final int OK = 0, VOID = 1, TYPE = 2, MISSING = 3, ERROR = 4, LONG = 5, SYNTAX = 6, NONE = -1;
     public static final long NOTHING = 10000000000L;
 
+    /** The kinds of tokens; ERROR is FAIL here, as the code has that name. */
     private static final int NUM = 0, VAR = 1, SET = 2, LET = 3, FUN = 4, CALL = 5, NAMED = 6;
     private static final int SEQ = 7, IF = 8, ADD = 9, SUB = 10, LESS = 11, CATCH = 12, THROW = 13;
     private static final int TRY = 14, PROTECT = 15, BUFFER = 16, LOCAL = 17, FAIL = 18;
@@ -381,7 +382,7 @@ public final class BindingLisp {
         startPart(1);
     }
 
-    /** Gives back what the frame has bound, and its buffer, whichever way the frame ends. */
+    /** Every way to end comes through here, so that what was bound is given back in each of them. */
     private void closeFrame() {
         depth--;
         if (keptPlace[depth] != NO_PLACE) {
@@ -405,7 +406,7 @@ public final class BindingLisp {
         mode = ENTERING;
     }
 
-    /** Binds s to the given value for the top frame; answers the scope for what is inside. */
+    /** A frame binds at most once, so it needs to keep one value only. Answers the scope for inside. */
     private int bind(int s, int outer) {
         if (specials[s]) {
             int place = presentPlace(s);
@@ -460,6 +461,7 @@ public final class BindingLisp {
                 resumeLocal(tokenValues[token]);
                 break;
             default:
+                // CATCH, TRY and BUFFER give what their part gave
                 closeFrame();
         }
     }

@@ -20,7 +20,7 @@ public final class EndingTest {
         BindingLisp x = new BindingLisp();
         for (int t = 0; t < 4; t++) {
             checks.gives(x, "CATCH " + t + " ADD 1 THROW " + t + " 5", 5);
-            checks.gives(x, "ADD 1 CATCH " + t + " ADD 1 THROW " + t + " 5", 6);
+            checks.gives(x, "ADD 1 CATCH " + t + " TRY THROW " + t + " 5 9", 6);
             checks.ends(x, "CATCH " + t + " THROW " + (t + 1) % 4 + " 5", BindingLisp.MISSING);
         }
         checks.gives(x, "CATCH 0 7", 7);

@@ -10,6 +10,8 @@ public final class RunTest {
         types(checks);
         missing(checks);
         closuresGo(checks);
+        closuresGoEverywhere(checks);
+        manyRuns(checks);
         checks.end();
     }
 
@@ -137,6 +139,32 @@ public final class RunTest {
             checks.localIs(x, words, 0, 3, 7);
             checks.ends(x, "b", BindingLisp.VOID);
             checks.ends(x, "BUFFER 2 c", BindingLisp.VOID);
+        }
+    }
+
+    private static void closuresGoEverywhere(Checks checks) {
+        for (int s = 0; s < 8; s++) {
+            BindingLisp x = new BindingLisp();
+            Checks.write(x, "SET " + s + " BUFFER 0 LOCAL " + s + " BUFFER 1 LOCAL " + s
+                + " BUFFER 2 LOCAL " + s + " SET " + s + " FUN 0 1");
+            checks.same("run()", x.run(), BindingLisp.OK);
+            for (int b = 0; b < 3; b++) {
+                checks.ends(x, "BUFFER " + b + " VAR " + s, BindingLisp.VOID);
+                if (x.kill(b, s)) {
+                    checks.ends(x, "BUFFER " + b + " VAR " + s, BindingLisp.VOID);
+                }
+            }
+            checks.globalIs(x, "a run with closures", s, BindingLisp.NOTHING);
+        }
+    }
+
+    /** More closures and lexical places in all than one run could make. */
+    private static void manyRuns(Checks checks) {
+        BindingLisp x = new BindingLisp();
+        Checks.write(x, "LET a FUN b b ".repeat(11) + "CALL a 5");
+        for (int i = 0; i < 60; i++) {
+            checks.same("run() number " + i, x.run(), BindingLisp.OK);
+            checks.same("result() number " + i, x.result(), 5);
         }
     }
 }
