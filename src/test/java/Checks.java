@@ -8,12 +8,18 @@ final class Checks {
 
     private int made = 0;
     private int wrong = 0;
+    private String sentence = "";
+
+    /** Names the sentence of the document that the checks from here on are about. */
+    void about(String words) {
+        sentence = "\"" + words + "\": ";
+    }
 
     void same(String what, long got, long want) {
         made++;
         if (got != want) {
             wrong++;
-            System.out.println(what + " answered " + got + ", due is " + want);
+            System.out.println(sentence + what + " answered " + got + ", due is " + want);
         }
     }
 
