@@ -455,7 +455,11 @@ public final class BindingLisp {
                 throwTo(tokenValues[token]);
                 break;
             case PROTECT:
-                resumeProtect(frame);
+                if (frameDone[frame] == 1) {
+                    startProtection(frame);
+                } else {
+                    endProtection(frame);
+                }
                 break;
             case LOCAL:
                 resumeLocal(tokenValues[token]);
@@ -490,22 +494,16 @@ public final class BindingLisp {
         if (frameDone[frame] == 1) {
             frameValue[frame] = given;
             startPart(2);
-        } else if (frameDone[frame] == 2) {
-            callClosure(frameValue[frame]);
-        } else {
+        } else if (frameDone[frame] == 3) {
             closeFrame();
-        }
-    }
-
-    private void callClosure(long called) {
-        if (!isClosure(called)) {
+        } else if (!isClosure(frameValue[frame])) {
             endWith(TYPE);
-            return;
+        } else {
+            int number = (int) (frameValue[frame] - FIRST_CLOSURE);
+            int fun = closureCode[number];
+            int inner = bind(tokenValues[fun], closureScope[number]);
+            startAt(fun + 1, inner);
         }
-        int number = (int) (called - FIRST_CLOSURE);
-        int fun = closureCode[number];
-        int inner = bind(tokenValues[fun], closureScope[number]);
-        startAt(fun + 1, inner);
     }
 
     private void resumeNamed(int frame, int k) {
@@ -573,24 +571,20 @@ public final class BindingLisp {
         return false;
     }
 
-    private void resumeProtect(int frame) {
-        if (frameDone[frame] == 1) {
-            startProtection(frame);
-            return;
-        }
-        closeFrame();
-        give(frameValue[frame]);
-        if (frameEnding[frame] != OK) {
-            endWith(frameEnding[frame]);
-        }
-    }
-
     /** Keeps how the first part ended and with what, to go on with it after the second. */
     private void startProtection(int frame) {
         frameDone[frame] = 1;
         frameValue[frame] = given;
         frameEnding[frame] = ending;
         startPart(2);
+    }
+
+    private void endProtection(int frame) {
+        closeFrame();
+        give(frameValue[frame]);
+        if (frameEnding[frame] != OK) {
+            endWith(frameEnding[frame]);
+        }
     }
 
     private void resumeLocal(int s) {
